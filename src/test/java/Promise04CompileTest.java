@@ -1,0 +1,178 @@
+/** Promise 4: compile. */
+public final class Promise04CompileTest {
+    private static final int OK = RegisterCompiler.OK;
+    private static final int SYNTAX = RegisterCompiler.SYNTAX;
+    private static final int LOOP = RegisterCompiler.LOOP;
+    private static final int UNKNOWN = RegisterCompiler.UNKNOWN;
+    private static final int COUNT = RegisterCompiler.COUNT;
+
+    public static void main(String[] args) {
+        programs();
+        functions();
+        everyPrefixMissesItsEnd();
+        wrongStatements();
+        wrongExpressions();
+        elseParts();
+        loops();
+        unknownCalls();
+        argumentCounts();
+        theFirstKindOfFaultWins();
+        tokensStayAndCompiledProgramsGo();
+        Check.finish();
+    }
+
+    private static void programs() {
+        Check.dueCompile("func 0 { }", OK, -1);
+        Check.dueCompile("func 3 { { } { { } } }", OK, -1);
+        Check.dueCompile("func 0 { f0 ( ) ; v5 = m [ 0 ] ; m [ m [ 1 ] ] = - ! ~ 3 ; print ( v0 ) ; return 1 ; }", OK, -1);
+        Check.dueCompile("func 0 { while ( 1 ) break ; if ( 1 ) { } else while ( 0 ) continue ; }", OK, -1);
+    }
+
+    private static void functions() {
+        Check.dueCompile("", SYNTAX, 0);
+        Check.dueCompile("{", SYNTAX, 0);
+        Check.dueCompile("0", SYNTAX, 0);
+        Check.dueCompile("func {", SYNTAX, 1);
+        Check.dueCompile("func v0 { }", SYNTAX, 1);
+        Check.dueCompile("func 4 { }", SYNTAX, 1);
+        Check.dueCompile("func -1 { }", SYNTAX, 1);
+        Check.dueCompile("func 2147483647 { }", SYNTAX, 1);
+        Check.dueCompile("func 0 v0 = 1 ;", SYNTAX, 2);
+        Check.dueCompile("func 0 { } }", SYNTAX, 4);
+        Check.dueCompile("func 0 { } ;", SYNTAX, 4);
+        Check.dueCompile("func 0 { func 0 { } }", SYNTAX, 3);
+        Check.dueCompile("func 0 { } func 1 { } func 2 { } func 3 { }", OK, -1);
+        Check.dueCompile("func 0 { } func 1 { } func 2 { } func 3 { } func 0 { }", SYNTAX, 16);
+        Check.dueCompile("func 0 { } func 1 { } func 2 { } func 3 { } func", SYNTAX, 16);
+        Check.dueCompile("func 0 { } func 1 { } func 2 { } func 4 { }", SYNTAX, 13);
+    }
+
+    private static void everyPrefixMissesItsEnd() {
+        String[] words = ("func 1 { v0 = v1 ; m [ v0 ] = f0 ( 1 , ( 2 ) ) ; if ( - v0 ) { } else while ( m [ 0 ] + 1 )"
+                + " { break ; continue ; } f0 ( ) ; return v0 ; print ! 1 ; }").split(" ");
+        StringBuilder prefix = new StringBuilder();
+        for (int i = 0; i < words.length; i++) {
+            Check.dueCompile(prefix.toString(), SYNTAX, i);
+            prefix.append(words[i]).append(' ');
+        }
+        Check.dueCompile(prefix.toString(), COUNT, 12);
+    }
+
+    private static void wrongStatements() {
+        Check.dueCompile("func 0 { ; }", SYNTAX, 3);
+        Check.dueCompile("func 0 { 1 ; }", SYNTAX, 3);
+        Check.dueCompile("func 0 { else v0 = 1 ; }", SYNTAX, 3);
+        Check.dueCompile("func 0 { ( v0 ) = 1 ; }", SYNTAX, 3);
+        Check.dueCompile("func 0 { v0 + 1 ; }", SYNTAX, 4);
+        Check.dueCompile("func 0 { v0 == 1 ; }", SYNTAX, 4);
+        Check.dueCompile("func 0 { v0 = v1 = 1 ; }", SYNTAX, 6);
+        Check.dueCompile("func 0 { m = 1 ; }", SYNTAX, 4);
+        Check.dueCompile("func 0 { m [ 1 ] ; }", SYNTAX, 7);
+        Check.dueCompile("func 0 { m [ ] = 1 ; }", SYNTAX, 5);
+        Check.dueCompile("func 0 { m [ 1 , 2 ] = 1 ; }", SYNTAX, 6);
+        Check.dueCompile("func 0 { f0 ( ) + 1 ; }", SYNTAX, 6);
+        Check.dueCompile("func 0 { f0 = 1 ; }", SYNTAX, 4);
+        Check.dueCompile("func 0 { f0 ; }", SYNTAX, 4);
+        Check.dueCompile("func 0 { return ; }", SYNTAX, 4);
+        Check.dueCompile("func 0 { print ; }", SYNTAX, 4);
+        Check.dueCompile("func 0 { break 1 ; }", SYNTAX, 4);
+        Check.dueCompile("func 0 { continue }", SYNTAX, 4);
+        Check.dueCompile("func 0 { if v0 { } }", SYNTAX, 4);
+        Check.dueCompile("func 0 { if ( ) { } }", SYNTAX, 5);
+        Check.dueCompile("func 0 { if ( 1 ) }", SYNTAX, 7);
+        Check.dueCompile("func 0 { while ( 1 ) ; }", SYNTAX, 7);
+        Check.dueCompile("func 0 { while { } }", SYNTAX, 4);
+        Check.dueCompile("func 0 { v0 = 1 }", SYNTAX, 6);
+    }
+
+    private static void wrongExpressions() {
+        Check.dueCompile("func 0 { v0 = ; }", SYNTAX, 5);
+        Check.dueCompile("func 0 { v0 = + 1 ; }", SYNTAX, 5);
+        Check.dueCompile("func 0 { v0 = 1 + ; }", SYNTAX, 7);
+        Check.dueCompile("func 0 { v0 = 1 2 ; }", SYNTAX, 6);
+        Check.dueCompile("func 0 { v0 = 1 ! 2 ; }", SYNTAX, 6);
+        Check.dueCompile("func 0 { v0 = 1 - - 2 ; }", OK, -1);
+        Check.dueCompile("func 0 { v0 = ( ) ; }", SYNTAX, 6);
+        Check.dueCompile("func 0 { v0 = ( 1 ; }", SYNTAX, 7);
+        Check.dueCompile("func 0 { v0 = 1 ) ; }", SYNTAX, 6);
+        Check.dueCompile("func 0 { v0 = ( 1 ] ; }", SYNTAX, 7);
+        Check.dueCompile("func 0 { v0 = m ; }", SYNTAX, 6);
+        Check.dueCompile("func 0 { v0 = m ( 1 ) ; }", SYNTAX, 6);
+        Check.dueCompile("func 0 { v0 = v0 [ 1 ] ; }", SYNTAX, 6);
+        Check.dueCompile("func 0 { v0 = f0 ; }", SYNTAX, 6);
+        Check.dueCompile("func 0 { v0 = f0 ( , 1 ) ; }", SYNTAX, 7);
+        Check.dueCompile("func 0 { v0 = f0 ( 1 , ) ; }", SYNTAX, 9);
+        Check.dueCompile("func 0 { v0 = f0 ( 1 2 ) ; }", SYNTAX, 8);
+        Check.dueCompile("func 0 { v0 = f0 ( 1 ; }", SYNTAX, 8);
+        Check.dueCompile("func 0 { v0 = 1 , 2 ; }", SYNTAX, 6);
+        Check.dueCompile("func 0 { v0 = 1 + print ; }", SYNTAX, 7);
+    }
+
+    private static void elseParts() {
+        Check.dueCompile("func 0 { if ( 1 ) { } else { } else { } }", SYNTAX, 12);
+        Check.dueCompile("func 0 { if ( 1 ) if ( 1 ) { } else { } else { } }", OK, -1);
+        Check.dueCompile("func 0 { if ( 1 ) if ( 1 ) { } else { } else { } else { } }", SYNTAX, 19);
+        Check.dueCompile("func 0 { if ( 1 ) while ( 1 ) if ( 1 ) { } else { } else { } }", OK, -1);
+        Check.dueCompile("func 0 { while ( 1 ) { } else { } }", SYNTAX, 9);
+        Check.dueCompile("func 0 { if ( 1 ) { } { } else { } }", SYNTAX, 11);
+        Check.dueCompile("func 0 { { if ( 1 ) { } } else { } }", SYNTAX, 11);
+        Check.dueCompile("func 0 { if ( 1 ) else { } }", SYNTAX, 7);
+    }
+
+    private static void loops() {
+        Check.dueCompile("func 0 { break ; }", LOOP, 3);
+        Check.dueCompile("func 0 { continue ; }", LOOP, 3);
+        Check.dueCompile("func 0 { while ( 1 ) { } continue ; break ; }", LOOP, 9);
+        Check.dueCompile("func 0 { while ( 1 ) break ; if ( 1 ) { break ; } }", LOOP, 14);
+        Check.dueCompile("func 0 { while ( 1 ) { while ( 2 ) { } break ; } continue ; }", LOOP, 17);
+        Check.dueCompile("func 0 { while ( 1 ) { if ( 1 ) continue ; else break ; } }", OK, -1);
+        Check.dueCompile("func 0 { while ( 1 ) break ; } func 0 { break ; }", LOOP, 13);
+    }
+
+    private static void unknownCalls() {
+        Check.dueCompile("func 0 { f1 ( ) ; }", UNKNOWN, 3);
+        Check.dueCompile("func 0 { f1 ( ) ; } func 0 { }", OK, -1);
+        Check.dueCompile("func 0 { f1 ( ) ; f3 ( ) ; f2 ( ) ; } func 0 { }", UNKNOWN, 7);
+        Check.dueCompile("func 0 { return 1 + f0 ( ) * f2 ( f3 ( ) ) ; } func 0 { }", UNKNOWN, 10);
+        Check.dueCompile("func 0 { f3 ( ) ; } func 0 { } func 0 { } func 0 { }", OK, -1);
+    }
+
+    private static void argumentCounts() {
+        for (int parameters = 0; parameters <= 3; parameters++) {
+            StringBuilder arguments = new StringBuilder();
+            for (int given = 0; given <= 50; given++) {
+                String program = "func " + parameters + " { f0 ( " + arguments + " ) ; }";
+                boolean right = given == parameters;
+                Check.dueCompile(program, right ? OK : COUNT, right ? -1 : 3);
+                arguments.append(given == 0 ? "1 " : ", 1 ");
+            }
+        }
+        Check.dueCompile("func 1 { f0 ( f0 ( ) ) ; f0 ( ) ; }", COUNT, 5);
+        Check.dueCompile("func 1 { f0 ( f0 ( ) , 1 ) ; }", COUNT, 3);
+        Check.dueCompile("func 1 { f0 ( f1 ( 1 , f0 ( 2 ) ) ) ; f1 ( 1 ) ; } func 2 { }", COUNT, 16);
+    }
+
+    private static void theFirstKindOfFaultWins() {
+        Check.dueCompile("func 0 { f0 ( 1 ) ; f1 ( ) ; break ; ; }", SYNTAX, 14);
+        Check.dueCompile("func 0 { f0 ( 1 ) ; f1 ( ) ; break ; }", LOOP, 12);
+        Check.dueCompile("func 0 { f0 ( 1 ) ; f1 ( ) ; }", UNKNOWN, 8);
+        Check.dueCompile("func 0 { f0 ( 1 ) ; f0 ( ) ; }", COUNT, 3);
+        Check.dueCompile("func 0 { f0 ( 1 ) ; f1 ( ) ; break ; } func", SYNTAX, 16);
+    }
+
+    private static void tokensStayAndCompiledProgramsGo() {
+        RegisterCompiler x = Check.compiled("func 0 { return 4 ; }");
+        Check.due("compile() again", x.compile(), OK);
+        Check.dueRun(x, 0, 0, 0, RegisterCompiler.DONE, 4);
+        Check.feed(x, "func 0 { return 5 ; } func 0 { break ; }");
+        Check.due("compile() of a loose break", x.compile(), LOOP);
+        for (int f = 0; f < 4; f++) {
+            Check.due("run(" + f + ") of what was compiled before", x.run(f, 0, 0, 0), RegisterCompiler.REFUSED);
+        }
+        Check.due("result() stays", x.result(), 4);
+        Check.due("wipe()", x.wipe(), 20);
+        Check.feed(x, "func 0 { return 6 ; }");
+        Check.due("compile() after a fault", x.compile(), OK);
+        Check.dueRun(x, 0, 0, 0, RegisterCompiler.DONE, 6);
+    }
+}
