@@ -390,9 +390,11 @@ public final class RegisterCompiler {
                 break;
             case IF:
                 startIf();
+                planCondition();
                 break;
             case WHILE:
                 startLoop(place);
+                planCondition();
                 break;
             case BREAK:
             case CONTINUE:
@@ -435,7 +437,6 @@ public final class RegisterCompiler {
         plan(ELSE_PART, otherwise, 0);
         plan(STATEMENT, 0, 0);
         plan(EMIT + JUMP_IF_FALSE, otherwise, 0);
-        planCondition();
     }
 
     private void parseElsePart(int otherwise) {
@@ -462,7 +463,6 @@ public final class RegisterCompiler {
         plan(LOOP_END, again, 0);
         plan(STATEMENT, 0, 0);
         plan(EMIT + JUMP_IF_FALSE, again + 1, 0);
-        planCondition();
     }
 
     private void endLoop(int again) {
@@ -626,7 +626,7 @@ public final class RegisterCompiler {
         }
     }
 
-    /** Two labels, the one answered and the one after it: none needs more. */
+    /** Makes two labels, the one answered and the one after it: no construct needs more. */
     private int newLabels() {
         int first = labelCount;
         labelCount += 2;

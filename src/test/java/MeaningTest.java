@@ -16,6 +16,8 @@ public final class MeaningTest {
         leftToRight();
         nearestIf();
         variablesOfACall();
+        valuesThatAreNotUsed();
+        nestedLoops();
         deepExpressions();
         Check.finish();
     }
@@ -197,6 +199,26 @@ public final class MeaningTest {
         }
     }
 
+    /** A call as a statement, and a function without a return, leave the values that wait alone. */
+    private static void valuesThatAreNotUsed() {
+        RegisterCompiler x = Check.compiled("func 0 { return 10 - f1 ( ) * 2 ; } func 0 { f2 ( ) ; f2 ( ) ; return 3 ; } func 0 { return 50 ; }");
+        Check.dueRun(x, 0, 0, 0, DONE, 4);
+        RegisterCompiler y = Check.compiled("func 0 { return 10 - f1 ( ) ; } func 0 { v0 = 6 ; }");
+        Check.dueRun(y, 0, 0, 0, DONE, 10);
+    }
+
+    private static void nestedLoops() {
+        RegisterCompiler x = Check.compiled("func 2 { while ( v0 > 0 ) { v0 = v0 - 1 ; v2 = 0 ; while ( v2 < 9 ) { v2 = v2 + 1 ;"
+                + " if ( v2 == v1 ) break ; if ( v2 & 1 ) continue ; print v0 * 10 + v2 ; } if ( v0 == 1 ) break ; } return v0 ; }");
+        Check.dueRun(x, 3, 5, 0, DONE, 1);
+        int[] due = {22, 24, 12, 14};
+        Check.due("printed()", x.printed(), due.length);
+        for (int k = 0; k < due.length; k++) {
+            Check.due("output(" + k + ")", x.output(k), due[k]);
+        }
+        Check.due("used()", x.used(), 2 * (1 + 5));
+    }
+
     /** As many values as fit wait in each of the eight calls. */
     private static void deepExpressions() {
         StringBuilder words = new StringBuilder("func 1 { if ( v0 ) return ");
@@ -210,7 +232,9 @@ public final class MeaningTest {
             words.append(") ");
         }
         RegisterCompiler x = Check.compiled(words + "; }");
-        Check.dueRun(x, 7, 0, 0, DONE, 7 * open);
-        Check.dueRun(x, 8, 0, 0, RegisterCompiler.DEEP, 8 + 3 * open);
+        for (int again = 0; again < 20; again++) {
+            Check.dueRun(x, 7, 0, 0, DONE, 7 * open);
+            Check.dueRun(x, 8, 0, 0, RegisterCompiler.DEEP, 8 + 3 * open);
+        }
     }
 }

@@ -18,6 +18,8 @@ public final class Promise04CompileTest {
         argumentCounts();
         theFirstKindOfFaultWins();
         tokensStayAndCompiledProgramsGo();
+        nothingIsLeftOfTheCompileBefore();
+        programsOfFullLength();
         Check.finish();
     }
 
@@ -174,5 +176,49 @@ public final class Promise04CompileTest {
         Check.feed(x, "func 0 { return 6 ; }");
         Check.due("compile() after a fault", x.compile(), OK);
         Check.dueRun(x, 0, 0, 0, RegisterCompiler.DONE, 6);
+    }
+
+    private static void nothingIsLeftOfTheCompileBefore() {
+        RegisterCompiler x = Check.fed("func 0 { f0 ( ) ; f0 ( ) ; f3 ( ) ; while ( 1 ) { while ( 1 ) {");
+        Check.due("compile() in the middle of a while", x.compile(), SYNTAX);
+        x.wipe();
+        Check.feed(x, "func 0 { break ; }");
+        Check.due("compile() of a loose break after it", x.compile(), LOOP);
+        x.wipe();
+        Check.feed(x, "func 1 { f0 ( 1 ) ; }");
+        Check.due("compile() of a shorter program after it", x.compile(), OK);
+        x.wipe();
+        Check.feed(x, "func 0 { f0 ( ) ; }");
+        Check.due("compile() with another number of arguments", x.compile(), OK);
+    }
+
+    /** Fills all 120 tokens with one construct, and compiles it again and again. */
+    private static void programsOfFullLength() {
+        repeated("func 1 { return v0", " && v0", 56, " ; }", 7, 1);
+        repeated("func 1 { return v0", " || v0", 56, " ; }", 0, 0);
+        repeated("func 1 { return v0", " + v0", 56, " ; }", 3, 3 * 57);
+        repeated("func 1 { return ", "- ", 113, "v0 ; }", 3, -3);
+        repeated("func 1 {", " while ( v0 ) break ;", 18, " return v0 + 4 ; }", 3, 7);
+        repeated("func 1 {", " if ( v0 ) v1 = 1 + v1 ; else v1 = v1 - 1 ;", 6, " return v1 ; }", 0, -6);
+        repeated("func 1 { if ( v0 ) ", "if ( v0 ) ", 26, "return 8 ; }", 1, 8);
+        repeated("func 1 { while ( v0 ) ", "while ( v0 ) ", 26, "return 8 ; }", 1, 8);
+        nested("func 1 { return ", "( ", "v0", " )", 56, " ; }", 5, 5);
+        nested("func 1 { return ", "m [ ", "v0", " ]", 37, " ; }", 5, 0);
+        nested("func 1 { return ", "1 - ( ", "v0", " )", 28, " ; }", 5, 5);
+        nested("func 1 { ", "{ ", "return v0 ;", " }", 56, " }", 5, 5);
+        nested("func 1 { return v0 && ", "f1 ( ", "0", " )", 34, " ; } func 1 { return v0 ; }", 5, 0);
+        repeated("func 1 { ", "f1 ( ) ; ", 26, "return v0 ; } func 0 { }", 9, 9);
+    }
+
+    private static void nested(String head, String open, String core, String close, int times, String tail, int a, int want) {
+        repeated(head + open.repeat(times) + core, close, times, tail, a, want);
+    }
+
+    private static void repeated(String head, String part, int times, String tail, int a, int want) {
+        RegisterCompiler x = Check.fed(head + part.repeat(times) + tail);
+        for (int again = 0; again < 30; again++) {
+            Check.due("compile() of " + part + " " + times + " times", x.compile(), OK);
+            Check.dueRun(x, a, 0, 0, RegisterCompiler.DONE, want);
+        }
     }
 }
