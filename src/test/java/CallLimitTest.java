@@ -26,7 +26,8 @@ public final class CallLimitTest {
     }
 
     private static void compiles() {
-        RegisterCompiler x = filled("func 1 { return v0" + " && v0".repeat(41) + " ; } func 1 { while ( v0 ) v0 = v0 - 1 ; return f0 ( 7 ) + 1 ; }");
+        RegisterCompiler x = filled("func 1 { return v0" + " && v0".repeat(41) + " ; }"
+                + " func 1 { while ( v0 ) v0 = v0 - 1 ; return f0 ( 7 ) + 1 ; }");
         while (left() > 2) {
             Check.due("compile() as call " + calls, x.compile(), RegisterCompiler.OK);
         }

@@ -136,8 +136,8 @@ public final class MeaningCallsTest {
 
     private static void argumentsAreNoActiveCalls() {
         Check.sentence("the arguments are evaluated; then, if 8 calls are active");
-        RegisterCompiler x = Check.dueResult("func 1 { return " + "f1 ( ".repeat(30) + "v0" + " )".repeat(30) + " ; } func 1 { return v0 + 1 ; }",
-                5, 0, 0, 35);
+        RegisterCompiler x = Check.dueResult("func 1 { return " + "f1 ( ".repeat(30) + "v0" + " )".repeat(30)
+                + " ; } func 1 { return v0 + 1 ; }", 5, 0, 0, 35);
         Check.due("used()", x.used(), 30);
     }
 
@@ -194,7 +194,8 @@ public final class MeaningCallsTest {
 
     private static void loopsOfTheCallerGoOn() {
         Check.sentence("then the function's block is executed");
-        RegisterCompiler x = Check.dueResult("func 1 { while ( v0 > 0 ) { v0 = v0 - 1 ; print f1 ( v0 ) ; if ( v0 == 1 ) continue ; print 7 ; } return 5 ; }"
+        RegisterCompiler x = Check.dueResult("func 1 { while ( v0 > 0 ) { v0 = v0 - 1 ; print f1 ( v0 ) ;"
+                + " if ( v0 == 1 ) continue ; print 7 ; } return 5 ; }"
                 + " func 1 { while ( 1 ) { while ( 1 ) { if ( v0 > 1 ) return v0 ; break ; } return 20 + v0 ; } }", 3, 0, 0, 5);
         Check.dueOutput(x, 2, 7, 21, 20, 7);
     }

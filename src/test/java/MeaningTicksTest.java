@@ -102,7 +102,8 @@ public final class MeaningTicksTest {
                 + " v3 = v0 && v1 || v2 ; if ( v3 ) return v3 + 4 ; }", 1, 2, 3, 5);
         Check.due("used()", x.used(), 0);
         // With all ticks used up a run still goes on to its end.
-        x = Check.dueResult("func 1 { while ( v0 > 0 ) v0 = v0 - 1 ; if ( 1 ) { m [ 1 ] = 4 ; print 3 ; } return m [ 1 ] ; }", 119, 0, 0, 4);
+        x = Check.dueResult("func 1 { while ( v0 > 0 ) v0 = v0 - 1 ;"
+                + " if ( 1 ) { m [ 1 ] = 4 ; print 3 ; } return m [ 1 ] ; }", 119, 0, 0, 4);
         Check.due("used()", x.used(), 120);
         Check.dueOutput(x, 3);
     }

@@ -30,7 +30,8 @@ public final class Promise09UsedTest {
 
     private static void whiles() {
         Check.sentence("while uses up one TICK before each evaluation of its condition");
-        RegisterCompiler x = Check.compiled("func 1 { while ( v0 > 0 ) { v0 = v0 - 1 ; if ( v0 == 5 ) break ; if ( v0 & 1 ) continue ; } }");
+        RegisterCompiler x = Check.compiled("func 1 { while ( v0 > 0 ) { v0 = v0 - 1 ;"
+                + " if ( v0 == 5 ) break ; if ( v0 & 1 ) continue ; } }");
         int[] due = {1, 2, 3, 4, 5, 6, 1, 2, 3};
         for (int n = 0; n < due.length; n++) {
             Check.dueRun(x, n, 0, 0, DONE, 0);
@@ -49,7 +50,8 @@ public final class Promise09UsedTest {
 
     private static void afterEveryFault() {
         Check.sentence("Of the same run: the TICKS used up");
-        RegisterCompiler x = Check.compiled("func 2 { f1 ( ) ; f1 ( ) ; if ( v0 == 0 ) return 1 / v1 ; if ( v0 == 1 ) return m [ v1 ] ; f0 ( v0 , v1 ) ; }"
+        RegisterCompiler x = Check.compiled("func 2 { f1 ( ) ; f1 ( ) ; if ( v0 == 0 ) return 1 / v1 ;"
+                + " if ( v0 == 1 ) return m [ v1 ] ; f0 ( v0 , v1 ) ; }"
                 + " func 0 { while ( 0 ) { } }");
         Check.due("run", x.run(0, 0, 0, 0), RegisterCompiler.DIVIDE);
         Check.due("used() after DIVIDE", x.used(), 4);

@@ -20,7 +20,8 @@ public final class TokensTest {
             Check.dueValue("" + number, 5, 5, 5, number);
             Check.dueValue("v0 + " + number, 1, 5, 5, number + 1);
             Check.dueResult("func 0 { v0 = " + number + " ; m [ 3 ] = v0 ; return m [ 3 ] ; }", 0, 0, 0, number);
-            RegisterCompiler x = Check.dueResult("func 0 { print " + number + " ; f1 ( " + number + " ) ; } func 1 { print v0 ; }", 0, 0, 0, 0);
+            RegisterCompiler x = Check.dueResult("func 0 { print " + number + " ; f1 ( " + number + " ) ; }"
+                    + " func 1 { print v0 ; }", 0, 0, 0, 0);
             Check.dueOutput(x, number, number);
         }
     }
@@ -40,7 +41,8 @@ public final class TokensTest {
 
     private static void everyCall() {
         Check.sentence("2 CALL (a function's number 0..3)");
-        RegisterCompiler x = Check.dueResult("func 1 { if ( v0 ) return 5 ; return f3 ( ) * 1000 + f2 ( ) * 100 + f1 ( ) * 10 + f0 ( 1 ) ; }"
+        RegisterCompiler x = Check.dueResult("func 1 { if ( v0 ) return 5 ;"
+                + " return f3 ( ) * 1000 + f2 ( ) * 100 + f1 ( ) * 10 + f0 ( 1 ) ; }"
                 + " func 0 { return 6 ; } func 0 { return 7 ; } func 0 { return 8 ; }", 0, 0, 0, 8765);
         Check.due("used()", x.used(), 4);
     }
