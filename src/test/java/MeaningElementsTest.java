@@ -10,6 +10,7 @@ public final class MeaningElementsTest {
     public static void main(String[] args) {
         sixteenElements();
         allFunctionsShareThem();
+        callsAtAnyDepthShareThem();
         readingOutside();
         settingOutside();
         elementsOfElements();
@@ -41,11 +42,19 @@ public final class MeaningElementsTest {
         Check.dueRun(x, 0, 0, 0, DONE, 130);
         Check.due("run(2, ..)", x.run(2, 0, 0, 0), DONE);
         Check.due("memory(3) after another run", x.memory(3), 60);
-        // Each of eight calls sets two elements; none is lost when the calls end.
-        RegisterCompiler y = Check.dueResult("func 1 { m [ v0 ] = v0 + 20 ; m [ v0 + 8 ] = v0 + 28 ; if ( v0 < 7 ) f0 ( v0 + 1 ) ; }",
-                0, 0, 0, 0);
+    }
+
+    /** Elements that were set before, in and after a call at any depth are the same for all of them. */
+    private static void callsAtAnyDepthShareThem() {
+        Check.sentence("that all functions share");
+        RegisterCompiler x = Check.compiled("func 1 { m [ v0 ] = m [ v0 ] + 20 ; if ( v0 < 7 ) f0 ( v0 + 1 ) ;"
+                + " m [ v0 + 8 ] = m [ v0 + 8 ] + m [ 7 ] ; }");
         for (int i = 0; i < 16; i++) {
-            Check.due("memory(" + i + ") after eight calls", y.memory(i), 20 + i);
+            x.store(i, 1000 * i);
+        }
+        Check.dueRun(x, 0, 0, 0, DONE, 0);
+        for (int i = 0; i < 16; i++) {
+            Check.due("memory(" + i + ") after eight calls", x.memory(i), 1000 * i + (i < 8 ? 20 : 7020));
         }
     }
 
